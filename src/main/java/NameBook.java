@@ -1209,7 +1209,7 @@ public final class NameBook {
                 sort = END;
             } else if (isLetter(start)) {
                 sort = WORD;
-                while (isLetter(end)) {
+                while (end < length && isLetter(end)) {
                     end++;
                 }
             } else if (isDigit(start)) {
@@ -1223,18 +1223,18 @@ public final class NameBook {
 
         private void readNumber() {
             value = 0;
-            while (isDigit(end)) {
+            while (end < length && isDigit(end)) {
                 value = Math.min(TOO_MUCH, value * 10 + bytes[end] - '0');
                 end++;
             }
         }
 
         private boolean isLetter(int i) {
-            return i < length && bytes[i] >= 'a' && bytes[i] <= 'z';
+            return bytes[i] >= 'a' && bytes[i] <= 'z';
         }
 
         private boolean isDigit(int i) {
-            return i < length && bytes[i] >= '0' && bytes[i] <= '9';
+            return bytes[i] >= '0' && bytes[i] <= '9';
         }
 
         private boolean isWord(String word) {
