@@ -30,6 +30,8 @@ public final class BoundariesTest {
         copies();
         readers();
         images();
+        everyAct();
+        everyActLate();
         lastCall();
         System.out.println(wrong == 0 ? sentences + " sentences hold at their boundaries" : wrong + " lines are not as due");
         if (wrong != 0) {
@@ -248,6 +250,13 @@ public final class BoundariesTest {
             take(1, 2)
             ahead(1, 1) = 56
             """);
+        says("Terms: FEUD: it NEEDS TASK 0, whose NAME is borne by PERSON 0", """
+            read "task 0 hours 1;feud 7 hours 50 needs 0;person;person hands 9 age 7 bears 7" = 4
+            strike(0)
+            ahead(1, 1) = 56
+            take(0, 0)
+            ahead(1, 1) = 46
+            """);
         says("Terms: FEUD, whose bearer leaves in (e), was borne in (a)", """
             read "feud 0 hours 50;task 1 hours 1;person hands 9 age 7 bears 0;person age 39 bears 1" = 4
             strike(1)
@@ -310,6 +319,15 @@ public final class BoundariesTest {
             taskOf(2, 2) = 42
             years(1) = 0
             taskOf(2, 2) = 38
+            """);
+        says("Terms: (b): by numbers each PERSON, the first and the last", """
+            read "task 0 hours 50;person hands 4 age 7;person;person;person bears 0" = 5
+            4 x person(6)
+            change(7, 1, 7)
+            helps(0, 3)
+            ahead(1, 1) = 48
+            helps(7, 3)
+            ahead(1, 1) = 45
             """);
         says("Terms: (b): half of its own HANDS (cut)", """
             read "task 0 hours 50;person bears 0;person hands 2 age 7;person hands 3 age 7;person hands 9 age 7" = 5
@@ -1094,7 +1112,8 @@ public final class BoundariesTest {
             ahead(100, 4) = 1
             """);
         says("Promise 19: what 0 to 4", """
-            read "task 7 hours 10;task 0 hours 1" = 2
+            read "task 7 hours 10;task 0 hours 1;task 0 hours 1" = 3
+            strike(2)
             ahead(0, 0) = 2
             ahead(0, 1) = 11
             ahead(0, 2) = 129
@@ -1200,14 +1219,23 @@ public final class BoundariesTest {
             strike(1)
             choose(1) = NONE
             """);
+        says("Promise 22: most WORTH: of NAME 0, of NAME 7", """
+            read "name 0 worth 12;name 6 worth 11;task 0 hours 3;task 6 hours 3;task 7 hours 3;person age 7" = 6
+            choose(0) = 0
+            worth(7, 13)
+            choose(0) = 7
+            worth(7, 12)
+            choose(0) = 0
+            """);
         says("Promise 22: WORTH 0 is a WORTH", """
             read "name 5 worth 0;task 5 hours 3;person age 7" = 3
             choose(0) = 5
             """);
         says("Promise 22: BEYOND; STATE: this one bears one, or is 40; NONE", """
-            read "task 0 hours 1;person bears 0;person age 38;person age 39" = 4
+            read "task 0 hours 1;person bears 0;person age 38;person age 39;person bears 7" = 5
+            choose(4) = BEYOND
+            choose(3) = STATE
             choose(-1) = BEYOND
-            choose(3) = BEYOND
             choose(MIN) = BEYOND
             choose(MAX) = BEYOND
             choose(0) = STATE
@@ -1215,7 +1243,7 @@ public final class BoundariesTest {
             years(1)
             choose(1) = NONE
             choose(2) = STATE
-            choose(3) = BEYOND
+            choose(4) = BEYOND
             """);
         says("Promise 22: STATE: YEAR is above 959", """
             year 959
@@ -1401,6 +1429,120 @@ public final class BoundariesTest {
             give(1) = 0
             most(1) = 10
             """);
+        says("Terms: GIVING: to each one at most, a NAME to one at most", """
+            read "task 0 hours 6;task 1 hours 3;person age 7;person age 7" = 4
+            most(1) = 10
+            most(2) = 20
+            give(1) = 1
+            of(0, 0) = -1
+            of(1, 0) = 1
+            """);
+        says("Terms: GIVING: two can't bear one NAME, though it would be ended so", """
+            read "letter 0 hours 1;task 0 hours 5;person age 7;person age 7" = 4
+            most(2) = 0
+            give(2) = 0
+            most(3) = 10
+            give(3) = 1
+            of(0, 0) = -1
+            of(1, 0) = 0
+            """);
+        says("Promise 24: what is borne counts, too, though it isn't given", """
+            read "name 0 worth 50;task 0 hours 3;task 1 hours 3;task 7 hours 6;person age 7 bears 0;person age 7" = 6
+            most(1) = 60
+            take(0, 7)
+            most(1) = 50
+            most(2) = 60
+            take(0, -1)
+            most(1) = 60
+            """);
+        says("Promise 25: a NAME that can't be ended is given, if a FEUD NEEDS it to be borne", """
+            read "task 0 hours 1;task 0 hours 999;feud 7 hours 9 needs 0;person;person hands 9 age 7" = 5
+            strike(0)
+            most(1) = 10
+            worth(7, 1)
+            most(1) = 1
+            give(1) = 2
+            of(0, 0) = 0
+            of(1, 0) = 7
+            """);
+        says("Promise 24: by PERSON 0, who HELPS with half of HANDS 1: it ends a PROMISE of 1 HOUR", """
+            read "promise 7 hours 1;person hands 1 age 7 bears 0;person" = 3
+            most(1) = 0
+            helps(0, 1)
+            most(1) = 10
+            turn(0, 4)
+            most(1) = 0
+            change(0, 2, 2)
+            most(1) = 10
+            give(1) = 1
+            of(1, 0) = 7
+            """);
+        says("Promise 24: of a full book: 20 TASKS, 8 PERSONS", """
+            20 x task(0, 7, 9)
+            8 x person(9)
+            read "name 7 worth 99" = 1
+            take(0, 0)
+            take(1, 1)
+            take(2, 2)
+            most(40) = SIZE
+            take(3, 3)
+            most(26) = 0
+            most(27) = 99
+            -- the bearer ends one a year, the three helpers together the next one
+            helps(0, 7)
+            helps(2, 7)
+            helps(3, 7)
+            most(16) = 0
+            most(17) = 99
+            most(40) = 99
+            choose(7) = 7
+            choose(4) = 7
+            handsFor(0) = 1
+            lives(7, 9) = 1
+            best(60) = 0
+            whom(1, 60) = -1
+            shut(7) = NONE
+            ends(19) = NONE
+            rings() = 0
+            give(27) = 1
+            of(7, 0) = 7
+            shut(7) = 17
+            ends(19) = 17
+            whom(1, 13) = 7
+            years(60) = 20
+            """);
+        says("Promise 25: of several the first: what waits for a RING is given to nobody", """
+            read "task 0 hours 3;task 1 hours 3;task 2 hours 1;task 2 hours 1 needs 2;person age 7;person age 7" = 6
+            needs(2, 3)
+            needs(0, 2)
+            needs(1, 2)
+            most(40) = 0
+            give(40) = 0
+            needs(1, -1)
+            give(1) = 1
+            of(0, 0) = -1
+            of(1, 0) = 1
+            """);
+        says("Promise 24: it comes with all who help, not with one HOUR more", """
+            read "task 0 hours 11;promise 1 hours 25;person age 7;person hands 9 age 7 bears 2;person hands 9 age 7 bears 3" = 5
+            helps(1, 0)
+            helps(2, 0)
+            most(1) = 10
+            give(1) = 1
+            of(0, 0) = 0
+            take(0, -1)
+            change(0, 2, 2)
+            most(1) = 0
+            most(2) = 10
+            give(1) = 0
+            strike(0)
+            change(1, 2, 8)
+            most(1) = 10
+            change(0, 2, 3)
+            most(1) = 20
+            give(1) = 1
+            of(0, 0) = 1
+            """);
         says("Terms: GIVING: PERSONS below 40, NAMES that are OPEN and not borne", """
             read "task 0 hours 3;task 1 hours 3;task 2 hours 3;person age 38;person age 39;person bears 2" = 6
             strike(1)
@@ -1469,6 +1611,15 @@ public final class BoundariesTest {
             lives(1, 2) = 1
             lives(1, 1) = 3
             """);
+        says("Promise 26: each from AGE 0 on: from the 8th YEAR to the 40th, of which every other counts for a WALL", """
+            read "wall 0 hours 16;wall 1 hours 17;wall 2 hours 18;person hands 9 age 7 bears 0" = 4
+            lives(0, 1) = 1
+            lives(1, 1) = 2
+            take(0, -1)
+            years(1)
+            lives(1, 1) = 1
+            lives(2, 1) = 2
+            """);
         says("Promise 26: nobody else there (other NAMES are borne by nobody)", """
             read "task 0 hours 34;feud 2 hours 1;task 1 hours 9;person hands 9 age 7;person age 7 bears 1" = 5
             helps(0, 1)
@@ -1515,6 +1666,12 @@ public final class BoundariesTest {
             best(61) = BEYOND
             year 999
             best(1) = STATE
+            """);
+        says("Promise 27: struck: ENDED for those that NEED it", """
+            read "task 0 hours 1;task 1 hours 20 needs 0;task 2 hours 9;person hands 9 age 7 bears 1" = 4
+            best(1) = 1
+            best(2) = 1
+            best(3) = 0
             """);
         says("Promise 27: the last TASK there can be", """
             19 x task(0, 0, 1)
@@ -1693,6 +1850,12 @@ public final class BoundariesTest {
             """);
         says("Terms: TOKENS, each as long as can be", """
             read "persons" = fault 0
+            read "persona" = fault 0
+            read "personz" = fault 0
+            read "aperson" = fault 0
+            read "zperson" = fault 0
+            read "bame 1 worth 1" = fault 0
+            read "namf 1 worth 1" = fault 0
             read "personperson" = fault 0
             read "nam 1 worth 1" = fault 0
             read "name 11 worth 1" = fault 5
@@ -2559,6 +2722,205 @@ public final class BoundariesTest {
             write(0, 0, 99)
             load(0) = 0
             status(-1) = 2
+            """);
+    }
+
+    /** A book with something everywhere, so that nothing can change unseen: tape, sheets, spots, image and all. */
+    private static final String RICH = """
+        read "name 1 worth 33;task 0 hours 90;feud 1 hours 20 needs 0;letter 2 hours 5;person hands 4 age 7 bears 0;person" = 6
+        read "person age 39 bears 2;person hands 9 age 12;person;person;person" = 5
+        helps(1, 0)
+        strike(2)
+        hold(3, 1)
+        hold(9, 2)
+        seed(-77)
+        image()
+        years(2)
+        worth(5, 6)
+        hold(0, 0)
+        sheet(0, 8, 3)
+        write(0, 0, 5)
+        write(0, 2, -1)
+        sheet(1, 16, 2)
+        write(1, 1, 7)
+        feed "name 3 worth 44"
+        """;
+
+    private static void everyAct() {
+        says("Terms: one that answers a finding changes nothing but status(): names, tasks, persons", RICH + """
+            worth(8, 5) = BEYOND
+            worth(5, 100) = BEYOND
+            task(7, 0, 1) = BEYOND
+            task(0, 8, 1) = BEYOND
+            task(0, 0, 1000) = BEYOND
+            taskOf(3, 0) = BEYOND
+            taskOf(0, 6) = BEYOND
+            turn(3, 0) = BEYOND
+            turn(0, 7) = BEYOND
+            needs(3, 0) = BEYOND
+            needs(0, 0) = BEYOND
+            needs(0, 3) = BEYOND
+            strike(3) = BEYOND
+            nameOf(8, 0) = BEYOND
+            nameOf(0, 7) = BEYOND
+            waits(3) = BEYOND
+            person(10) = BEYOND
+            of(7, 0) = BEYOND
+            of(0, 4) = BEYOND
+            change(7, 1, 1) = BEYOND
+            change(0, 1, 40) = BEYOND
+            change(0, 2, 10) = BEYOND
+            change(0, 0, 1) = BEYOND
+            helps(7, 0) = BEYOND
+            helps(0, 0) = BEYOND
+            helps(0, 7) = BEYOND
+            take(7, 0) = BEYOND
+            take(0, 8) = BEYOND
+            take(1, 0) = STATE
+            take(2, 5) = STATE
+            exchange(0, 0) = BEYOND
+            exchange(0, 7) = BEYOND
+            exchange(0, 2) = STATE
+            exchange(2, 0) = STATE
+            born(9) = BEYOND
+            """);
+        says("Terms: one that answers a finding changes nothing but status(): years, choosing", RICH + """
+            years(61) = BEYOND
+            ahead(101, 0) = BEYOND
+            ahead(0, 5) = BEYOND
+            shut(8) = BEYOND
+            shut(1) = NONE
+            ends(3) = BEYOND
+            ends(1) = NONE
+            choose(7) = BEYOND
+            choose(0) = STATE
+            choose(2) = STATE
+            choose(1) = NONE
+            handsFor(7) = BEYOND
+            handsFor(1) = STATE
+            most(41) = BEYOND
+            most(1) = SIZE
+            give(41) = BEYOND
+            give(1) = SIZE
+            lives(8, 1) = BEYOND
+            lives(0, 10) = BEYOND
+            lives(5, 1) = STATE
+            lives(1, 1) = NONE
+            best(61) = BEYOND
+            whom(7, 1) = BEYOND
+            whom(0, 61) = BEYOND
+            task(0, 0, 999) = 3
+            handsFor(0) = NONE
+            """);
+        says("Terms: one that answers a finding changes nothing but status(): texts, spots, sheets, images", RICH + """
+            feed(0x3b3b, 5) = BEYOND
+            feed(0x3b3b, 0) = BEYOND
+            hold(10, 0) = BEYOND
+            hold(0, 3) = BEYOND
+            as(10, 0) = BEYOND
+            as(0, 7) = BEYOND
+            as(1, 0) = MISSING
+            as(3, 4) = KIND
+            sheet(4, 8, 1) = BEYOND
+            sheet(0, 9, 1) = BEYOND
+            sheet(0, 8, -1) = SIZE
+            sheet(0, 8, 41) = BEYOND
+            sheet(0, 0, -1) = SIZE
+            sheet(0, 0, 41) = BEYOND
+            write(4, 0, 0) = BEYOND
+            write(0, 3, 0) = BEYOND
+            write(2, 0, 0) = MISSING
+            copy(4, 0, 0, 0, 1) = BEYOND
+            copy(0, 0, 4, 0, 1) = BEYOND
+            copy(0, 0, 2, 0, 1) = MISSING
+            copy(2, 0, 0, 0, 1) = MISSING
+            copy(0, 0, 1, 0, 1) = KIND
+            copy(0, 0, 0, 1, 3) = BEYOND
+            copy(0, 1, 0, 0, 3) = BEYOND
+            load(4) = BEYOND
+            load(2) = MISSING
+            judge(4, 0) = BEYOND
+            judge(2, 0) = MISSING
+            judge(0, 61) = BEYOND
+            count(8) = BEYOND
+            status(7) = BEYOND
+            read "x" = fault 15
+            tear() = 1
+            undo() = NONE
+            """);
+        says("Terms: AHEAD: nothing changes; a question changes nothing, status() neither", RICH + """
+            taskOf(0, 2) = ?
+            taskOf(1, 4) = 3
+            nameOf(1, 5) = -1
+            rings() = 0
+            waits(0) = 2
+            of(0, 3) = -1
+            ahead(100, 1) = ?
+            ahead(60, 4) = 2
+            shut(0) = ?
+            ends(0) = ?
+            handsFor(0) = ?
+            lives(0, 1) = ?
+            best(60) = ?
+            whom(1, 60) = ?
+            as(3, 2) = 1
+            judge(0, 60) = 1
+            count(5) = ?
+            take(3, 1) = -1
+            most(40) = ?
+            choose(4) = NONE
+            strike(0)
+            most(40) = ?
+            """);
+    }
+
+    private static void everyActLate() {
+        says("Terms: one that answers a finding changes nothing but status(): a full book in YEAR 999", """
+            18 x task(2, 7, 99)
+            2 x task(0, 0, 1)
+            strike(18)
+            strike(19)
+            8 x person(9)
+            year 960
+            change(0, 1, 0)
+            change(1, 1, 0)
+            take(0, 7)
+            take(1, 0)
+            helps(2, 0)
+            hold(0, 19)
+            sheet(3, 32, 40)
+            write(3, 39, 6)
+            image()
+            year 999
+            27 x feed(0x20202020, 4)
+            feed "name0worth1"
+            task(0, 0, 1) = FULL
+            person(3) = FULL
+            feed(0x3b3b, 2) = FULL
+            years(1) = STATE
+            ahead(1, 0) = STATE
+            shut(0) = STATE
+            ends(0) = STATE
+            choose(2) = STATE
+            handsFor(0) = STATE
+            most(1) = STATE
+            give(1) = STATE
+            best(1) = STATE
+            whom(0, 1) = STATE
+            judge(3, 1) = STATE
+            feed(0x3b, 1) = 120
+            feed(0x3b, 1) = FULL
+            text() = fault 120
+            """);
+        says("Terms: one that answers a finding changes nothing but status(): NONE of best()", """
+            task(0, 0, 1)
+            strike(0)
+            person(3)
+            hold(0, 0)
+            image()
+            years(3)
+            seed(5)
+            best(1) = NONE
             """);
     }
 

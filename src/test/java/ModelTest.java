@@ -64,6 +64,9 @@ public final class ModelTest {
                 both("years", 60);
             }
         }
+        if (random.nextInt(9) == 0) {
+            fillBook();
+        }
         int before = random.nextInt(14);
         for (int i = 0; i < before && !isWrong; i++) {
             both("task", random.nextInt(7), random.nextInt(8), 1 + random.nextInt(mostHours));
@@ -73,6 +76,22 @@ public final class ModelTest {
         }
         for (int i = 0; i < 140 && !isWrong; i++) {
             step(ACTS[random.nextInt(ACTS.length)]);
+        }
+    }
+
+    /** As many tasks and persons as there can be; most persons bear a name, so that givings can be asked for. */
+    private void fillBook() throws Exception {
+        for (int i = 0; i < 20; i++) {
+            both("task", random.nextInt(7), random.nextInt(8), 1 + random.nextInt(mostHours));
+        }
+        for (int p = 0; p < 8; p++) {
+            both("person", 1 + random.nextInt(9));
+            both("change", p, 1, random.nextInt(40));
+            both("take", p, random.nextInt(8));
+        }
+        for (int i = 0; i < 8; i++) {
+            both("needs", random.nextInt(20), random.nextInt(20));
+            both("helps", i, random.nextInt(8));
         }
     }
 

@@ -13,7 +13,8 @@ import java.util.regex.Pattern;
 
 /**
  * A run of calls on one new book, written as lines of text:
- * act(1, 2) = 3 is a call with the answer that is due (a number, a finding's name, or fault and a place);
+ * act(1, 2) = 3 is a call with the answer that is due (a number, a finding's name, or fault and a place; ? stands for
+ * any that is no finding);
  * act(1, 2) only prepares, and must not answer a finding; 20 x act(1, 2) does so twenty times;
  * feed "..." puts a text on the tape, read "..." = 3 reads it too; year 99 lets years go till then.
  *
@@ -176,7 +177,7 @@ final class Script {
             made.add(call);
             return;
         }
-        int want = answer(told);
+        int want = told.equals("?") ? Math.max(got, LOW + 1) : answer(told);
         if (got != want) {
             wrong(line, "answered " + got);
         }
