@@ -5,7 +5,7 @@
  */
 public final class BoundariesTest {
     private static int wrong;
-    private static int sentences;
+    private static int scripts;
 
     public static void main(String[] args) {
         terms();
@@ -33,14 +33,14 @@ public final class BoundariesTest {
         everyAct();
         everyActLate();
         lastCall();
-        System.out.println(wrong == 0 ? sentences + " sentences hold at their boundaries" : wrong + " lines are not as due");
+        System.out.println(wrong == 0 ? scripts + " scripts of boundaries hold" : wrong + " lines are not as due");
         if (wrong != 0) {
             System.exit(1);
         }
     }
 
     private static void says(String sentence, String lines) {
-        sentences++;
+        scripts++;
         wrong += Script.run(sentence, lines);
     }
 
@@ -2926,7 +2926,7 @@ public final class BoundariesTest {
 
     /** What it is: an object is used for at most 512 calls: the 512th still answers, as many findings as there can be. */
     private static void lastCall() {
-        sentences++;
+        scripts++;
         NameBook x = new NameBook();
         for (int i = 0; i < 511; i++) {
             x.status(7);
