@@ -1,11 +1,13 @@
+import java.lang.reflect.Array;
 import java.lang.reflect.Constructor;
 import java.lang.reflect.Field;
 import java.lang.reflect.Method;
 import java.lang.reflect.Modifier;
 import java.nio.file.Files;
 import java.nio.file.Path;
-import java.util.ArrayList;
 import java.util.Arrays;
+import java.util.Collections;
+import java.util.IdentityHashMap;
 import java.util.List;
 import java.util.Set;
 import java.util.TreeSet;
@@ -29,7 +31,10 @@ public final class LanguageTest {
             members(c);
         }
         members(NameBook.class);
-        source(Files.readString(Path.of("src/main/java/NameBook.java")));
+        Path source = Path.of("src/main/java/NameBook.java");
+        source(Files.readString(source));
+        SourceRules.brokenIn(source).forEach(rule -> check(false, rule));
+        room(new NameBook());
         System.out.println(wrong == 0 ? "the rules are kept" : wrong + " rules are not kept");
         if (wrong != 0) {
             System.exit(1);
@@ -86,43 +91,42 @@ public final class LanguageTest {
         }
     }
 
+    /** What SourceRules does not see: the compiler takes it all the same. */
     private static void source(String source) {
-        String code = source.replaceAll("(?s)/\\*.*?\\*/", "").replaceAll("//[^\n]*", "").replaceAll("\"[^\"\n]*\"", "\"\"");
-        for (String word : List.of("throw", "throws", "try", "catch", "finally", "synchronized", "assert", "package",
-                "protected", "volatile", "native", "Object", "System\\.out", "double", "float")) {
-            check(!Pattern.compile("\\b" + word + "\\b").matcher(code).find(), "no " + word);
-        }
-        check(!code.contains("->") && !code.contains("::") && !code.contains("Exact("), "no lambda, no reference, no Exact");
-        check(!Pattern.compile("\"\"\\s*\\+|\\+\\s*\"\"").matcher(code).find(), "texts are not joined by +");
-        for (int i = 0; i < source.length(); i++) {
-            check(source.charAt(i) < 128, "signs 1 to 127 alone");
-        }
-        Matcher imports = Pattern.compile("import ([^;]*);").matcher(code);
+        check(!Pattern.compile("(?m)^package ").matcher(source).find(), "no package line");
+        check(source.chars().allMatch(sign -> sign < 128), "signs 1 to 127 alone");
+        Matcher imports = Pattern.compile("(?m)^import ([^;]*);").matcher(source);
         while (imports.find()) {
             check(imports.group(1).equals("java.util.Arrays"), "no other import: " + imports.group(1));
         }
-        methods(code);
     }
 
-    /** Methods are short, and only fields and the constructor make objects. */
-    private static void methods(String code) {
-        List<String> makers = new ArrayList<>();
-        String head = "";
-        int length = 0;
-        for (String line : code.split("\n")) {
-            if (line.matches(" {4,8}(?!for|if|while|switch|\\})\\S.*\\) \\{")) {
-                head = line;
-                length = 0;
-            }
-            length++;
-            if (!head.isEmpty() && line.contains("new ") && !head.equals("    public NameBook() {")) {
-                makers.add(head.trim() + " " + line.trim());
-            }
-            if (line.equals(head.replaceAll("\\S.*", "") + "}")) {
-                check(length <= 60, "at most sixty lines: " + head);
-                head = "";
-            }
+    /** All calls of one run live in one room: a book is small, and no call makes more (SourceRules looks at that). */
+    private static void room(NameBook book) throws IllegalAccessException {
+        Set<Object> seen = Collections.newSetFromMap(new IdentityHashMap<>());
+        int cells = cells(book, seen);
+        check(seen.size() <= 60 && cells <= 900, "a book has " + seen.size() + " objects, " + cells + " fields and elements");
+    }
+
+    private static int cells(Object o, Set<Object> seen) throws IllegalAccessException {
+        if (o == null || !seen.add(o)) {
+            return 0;
         }
-        check(makers.isEmpty(), "no objects but in constructors: " + makers);
+        int sum = 0;
+        if (o.getClass().isArray()) {
+            sum = Array.getLength(o);
+            for (int i = 0; o instanceof Object[] && i < Array.getLength(o); i++) {
+                sum += cells(Array.get(o, i), seen);
+            }
+            return sum;
+        }
+        for (Field f : o.getClass().getDeclaredFields()) {
+            if (Modifier.isStatic(f.getModifiers())) {
+                continue;
+            }
+            f.setAccessible(true);
+            sum += 1 + (f.getType().isPrimitive() ? 0 : cells(f.get(o), seen));
+        }
+        return sum;
     }
 }

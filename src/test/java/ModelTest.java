@@ -19,6 +19,8 @@ public final class ModelTest {
         "hands", "age", "bears", ";", "0", "1", "3", "7", "8", "9", "39", "40", "99", "100", "999", "1000", "9999",
         "10000", "4294967296", "007", "hour", "x", "X", "\u00e9", "\t"};
 
+    private static final int MOST_CALLS = 512;
+
     private final Random random;
     private final NameBook book = new NameBook();
     private final Model model = new Model();
@@ -106,7 +108,11 @@ public final class ModelTest {
         both(act, a);
     }
 
+    /** No object is asked more often than the document allows: behind that nothing is done. */
     private void both(String act, int... a) throws Exception {
+        if (calls.size() >= MOST_CALLS) {
+            return;
+        }
         Method m = methods.get(act);
         Object[] boxed = new Object[a.length];
         for (int i = 0; i < a.length; i++) {

@@ -44,12 +44,12 @@ public final class PromisesTest {
     }
 
     /** The finding is due; it is counted once, and nothing else changes. */
-    private static void refused(NameBook x, int finding, IntSupplier act) {
+    private static void refused(CountedBook x, int finding, IntSupplier act) {
         String before = look(x);
-        int all = x.status(-1);
-        int same = x.status(BEYOND - finding);
+        int all = x.twin().status(-1);
+        int same = x.twin().status(BEYOND - finding);
         due(act.getAsInt(), finding);
-        if (x.status(-1) != all + 1 || x.status(BEYOND - finding) != same + 1) {
+        if (x.twin().status(-1) != all + 1 || x.twin().status(BEYOND - finding) != same + 1) {
             wrong++;
             System.out.println("promise " + promise + ", row " + row + ": the finding is not counted once");
         }
@@ -59,8 +59,9 @@ public final class PromisesTest {
         }
     }
 
-    /** All that can be seen of a book without a finding. */
-    private static String look(NameBook x) {
+    /** All that can be seen of a book without a finding; a twin is looked at, as the book has only so many calls. */
+    private static String look(CountedBook book) {
+        CountedBook x = book.twin();
         StringBuilder s = new StringBuilder();
         for (int what = 0; what <= 7; what++) {
             s.append(x.count(what)).append(' ');
@@ -70,12 +71,12 @@ public final class PromisesTest {
                 s.append(x.nameOf(name, what)).append(' ');
             }
         }
-        for (int t = 0; t < x.count(1); t++) {
+        for (int t = x.count(1) - 1; t >= 0; t--) {
             for (int what = 0; what <= 5; what++) {
                 s.append(x.taskOf(t, what)).append(' ');
             }
         }
-        for (int p = 0; p < x.count(3); p++) {
+        for (int p = x.count(3) - 1; p >= 0; p--) {
             for (int what = 0; what <= 3; what++) {
                 s.append(x.of(p, what)).append(' ');
             }
@@ -83,21 +84,26 @@ public final class PromisesTest {
         return s.toString();
     }
 
-    private static int feed(NameBook x, String text) {
+    private static int feed(CountedBook x, String text) {
         int had = x.count(6);
-        for (int i = 0; i < text.length(); i++) {
-            had = x.feed(text.charAt(i), 1);
+        for (int i = 0; i < text.length(); i += 4) {
+            int n = Math.min(4, text.length() - i);
+            int bytes = 0;
+            for (int k = 0; k < n; k++) {
+                bytes = bytes << 8 | text.charAt(i + k);
+            }
+            had = x.feed(bytes, n);
         }
         return had;
     }
 
-    private static int read(NameBook x, String text) {
+    private static int read(CountedBook x, String text) {
         feed(x, text);
         return x.text();
     }
 
-    private static NameBook told(String... texts) {
-        NameBook x = new NameBook();
+    private static CountedBook told(String... texts) {
+        CountedBook x = new CountedBook();
         for (String text : texts) {
             if (read(x, text) < 0) {
                 wrong++;
@@ -107,27 +113,27 @@ public final class PromisesTest {
         return x;
     }
 
-    private static NameBook atYear(int year) {
-        NameBook x = new NameBook();
+    private static CountedBook atYear(int year) {
+        CountedBook x = new CountedBook();
         letYearsGo(x, year);
         return x;
     }
 
-    private static void letYearsGo(NameBook x, int year) {
+    private static void letYearsGo(CountedBook x, int year) {
         while (x.count(0) < year) {
             x.years(Math.min(60, year - x.count(0)));
         }
     }
 
     /** Goes on to age 40 with the person. */
-    private static void makeOld(NameBook x, int person) {
+    private static void makeOld(CountedBook x, int person) {
         x.change(person, 1, 39);
         x.years(1);
     }
 
     private static void namesAndTasks() {
         promise(1);
-        NameBook x = new NameBook();
+        CountedBook x = new CountedBook();
         int[] counts = {0, 0, 0, 0, 0, 0, 0, 1};
         for (int what = 0; what < counts.length; what++) {
             due(x.count(what), counts[what]);
@@ -145,7 +151,7 @@ public final class PromisesTest {
         due(x.text(), -1);
 
         promise(2);
-        NameBook w = new NameBook();
+        CountedBook w = new CountedBook();
         due(w.worth(0, 99), 10);
         due(w.worth(0, 0), 99);
         due(w.worth(7, 5), 10);
@@ -156,7 +162,7 @@ public final class PromisesTest {
         refused(w, BEYOND, () -> w.worth(0, 100));
 
         promise(3);
-        NameBook t = new NameBook();
+        CountedBook t = new CountedBook();
         due(t.task(6, 7, 999), 0);
         due(t.task(0, 0, 1), 1);
         refused(t, BEYOND, () -> t.task(-1, 0, 1));
@@ -172,7 +178,7 @@ public final class PromisesTest {
         refused(t, BEYOND, () -> t.task(0, 0, 0));
 
         promise(4);
-        NameBook o = told("debt 3 hours 47;feud 2 hours 47 needs 0;tower 1 hours 5;wall 0 hours 9;debt 0 hours 9");
+        CountedBook o = told("debt 3 hours 47;feud 2 hours 47 needs 0;tower 1 hours 5;wall 0 hours 9;debt 0 hours 9");
         int[] first = {2, 3, 47, -1, 4, 0};
         int[] second = {3, 2, 47, 0, 5, 0};
         for (int what = 0; what <= 5; what++) {
@@ -225,7 +231,7 @@ public final class PromisesTest {
         refused(o, BEYOND, () -> o.strike(-1));
 
         promise(8);
-        NameBook n = told("name 2 worth 33;task 2 hours 4;task 2 hours 6 needs 0;person;person bears 2");
+        CountedBook n = told("name 2 worth 33;task 2 hours 4;task 2 hours 6 needs 0;person;person bears 2");
         int[] of = {33, 1, 1, 2, 10, 0, 0};
         for (int what = 0; what <= 6; what++) {
             due(n.nameOf(2, what), of[what]);
@@ -253,7 +259,7 @@ public final class PromisesTest {
         refused(n, BEYOND, () -> n.nameOf(0, 7));
 
         promise(9);
-        NameBook r = told("task 0 hours 1;task 1 hours 1 needs 0;task 2 hours 1 needs 1;task 3 hours 1 needs 2");
+        CountedBook r = told("task 0 hours 1;task 1 hours 1 needs 0;task 2 hours 1 needs 1;task 3 hours 1 needs 2");
         r.task(0, 4, 1);
         due(r.rings(), 0);
         r.needs(0, 2);
@@ -273,7 +279,7 @@ public final class PromisesTest {
         due(r.waits(2), 25);
         refused(r, BEYOND, () -> r.waits(5));
         refused(r, BEYOND, () -> r.waits(-1));
-        NameBook twenty = new NameBook();
+        CountedBook twenty = new CountedBook();
         for (int i = 0; i < 20; i++) {
             twenty.task(0, 0, 1);
         }
@@ -289,7 +295,7 @@ public final class PromisesTest {
 
     private static void persons() {
         promise(11);
-        NameBook x = new NameBook();
+        CountedBook x = new CountedBook();
         due(x.person(9), 0);
         due(x.person(1), 1);
         refused(x, BEYOND, () -> x.person(0));
@@ -368,7 +374,7 @@ public final class PromisesTest {
         refused(x, STATE, () -> x.exchange(6, 0));
 
         promise(17);
-        NameBook b = new NameBook();
+        CountedBook b = new CountedBook();
         b.seed(3);
         due(b.born(2), 2);
         int z = 3 * 1103515245 + 12345;
@@ -392,7 +398,7 @@ public final class PromisesTest {
 
     /** Hours that are left of a task of 100 hours behind a year with one bearer. */
     private static int left(int kind, int hands, int year) {
-        NameBook x = atYear(year);
+        CountedBook x = atYear(year);
         x.task(kind, 0, 100);
         x.person(hands);
         x.change(0, 1, 7);
@@ -407,7 +413,7 @@ public final class PromisesTest {
         growth();
         helpers();
         leaving();
-        NameBook x = told("task 0 hours 3;task 0 hours 2;task 0 hours 9 needs 1;person age 7 bears 0");
+        CountedBook x = told("task 0 hours 3;task 0 hours 2;task 0 hours 9 needs 1;person age 7 bears 0");
         due(x.years(1), 1);
         due(x.years(1), 1);
         due(x.years(2), 0);
@@ -416,14 +422,14 @@ public final class PromisesTest {
         refused(x, BEYOND, () -> x.years(0));
         refused(x, BEYOND, () -> x.years(61));
         refused(x, BEYOND, () -> x.years(FAR));
-        NameBook late = atYear(998);
+        CountedBook late = atYear(998);
         refused(late, STATE, () -> late.years(2));
         refused(late, BEYOND, () -> late.years(61));
         due(late.years(1), 0);
         refused(late, STATE, () -> late.years(1));
 
         promise(19);
-        NameBook a = told("name 1 worth 7;task 0 hours 4;task 1 hours 3;person age 39 bears 0;person age 6 bears 1");
+        CountedBook a = told("name 1 worth 7;task 0 hours 4;task 1 hours 3;person age 39 bears 0;person age 6 bears 1");
         String before = look(a);
         int[][] ahead = {{2, 7, 3, 0, 0}, {3, 9, 3, 0, 1}, {2, 6, 1, 7, 1}};
         for (int n = 0; n < 3; n++) {
@@ -436,18 +442,18 @@ public final class PromisesTest {
         refused(a, BEYOND, () -> a.ahead(101, 0));
         refused(a, BEYOND, () -> a.ahead(0, 5));
         refused(a, BEYOND, () -> a.ahead(0, -1));
-        NameBook l = atYear(900);
+        CountedBook l = atYear(900);
         due(l.ahead(99, 0), 0);
         refused(l, STATE, () -> l.ahead(100, 0));
         refused(l, BEYOND, () -> l.ahead(100, 5));
 
         promise(20);
-        NameBook s = told("task 0 hours 4;task 1 hours 9;task 1 hours 3;person age 6 bears 0;person bears 1");
+        CountedBook s = told("task 0 hours 4;task 1 hours 9;task 1 hours 3;person age 6 bears 0;person bears 1");
         due(s.shut(0), 3);
         due(s.shut(1), 11);
         due(s.shut(2), 0);
         due(s.count(0), 0);
-        NameBook hundred = told("task 0 hours 100;person age 39 bears 0;person hands 2");
+        CountedBook hundred = told("task 0 hours 100;person age 39 bears 0;person hands 2");
         refused(hundred, NONE, () -> hundred.shut(0));
         refused(s, BEYOND, () -> s.shut(8));
         refused(s, BEYOND, () -> s.shut(-1));
@@ -473,7 +479,7 @@ public final class PromisesTest {
 
     /** A name that one bears, and that an old helper ends behind just so many years. */
     private static void hundredYears() {
-        NameBook x = told("task 0 hours 99;person hands 1;person hands 1 bears 0;person");
+        CountedBook x = told("task 0 hours 99;person hands 1;person hands 1 bears 0;person");
         x.needs(0, -1);
         x.helps(0, 1);
         // hands 1 halved are 0: only the bearer's 33 years from 7 to 39 count, then 5 hours come
@@ -497,7 +503,7 @@ public final class PromisesTest {
         due(left(6, 1, 1), 100);
         due(left(6, 1, 0), 101);
         // a feud that needs an ended task of a name: that has to be borne
-        NameBook x = told("task 1 hours 1;feud 0 hours 50 needs 0;person hands 9 age 7 bears 0");
+        CountedBook x = told("task 1 hours 1;feud 0 hours 50 needs 0;person hands 9 age 7 bears 0");
         x.strike(0);
         due(x.ahead(1, 1), 50 + 6);
         x.person(1);
@@ -514,20 +520,20 @@ public final class PromisesTest {
     }
 
     private static void growth() {
-        NameBook x = told("debt 0 hours 999;feud 0 hours 990;tower 0 hours 999;debt 0 hours 9;letter 1 hours 8");
+        CountedBook x = told("debt 0 hours 999;feud 0 hours 990;tower 0 hours 999;debt 0 hours 9;letter 1 hours 8");
         x.years(1);
         int[] hours = {999, 999, 999, 9, 8};
         for (int t = 0; t < hours.length; t++) {
             due(x.taskOf(t, 2), hours[t]);
         }
-        NameBook y = told("tower 0 hours 10;promise 1 hours 10;wall 2 hours 10;task 3 hours 10");
+        CountedBook y = told("tower 0 hours 10;promise 1 hours 10;wall 2 hours 10;task 3 hours 10");
         y.years(3);
         due(y.taskOf(0, 2), 12);
         due(y.taskOf(1, 2), 10);
         due(y.taskOf(2, 2), 10);
         due(y.taskOf(3, 2), 10);
         // what is ended does not grow
-        NameBook z = told("feud 0 hours 9;person hands 9 age 7 bears 0");
+        CountedBook z = told("feud 0 hours 9;person hands 9 age 7 bears 0");
         due(z.years(1), 1);
         due(z.years(5), 0);
         due(z.taskOf(0, 2), 0);
@@ -535,7 +541,7 @@ public final class PromisesTest {
 
     private static void helpers() {
         // too young for work; the helper needs to be seven, the helped one not
-        NameBook x = told("task 0 hours 50;person hands 4 age 6 bears 0;person hands 5 age 7;person hands 5 age 6");
+        CountedBook x = told("task 0 hours 50;person hands 4 age 6 bears 0;person hands 5 age 7;person hands 5 age 6");
         x.helps(1, 0);
         x.helps(2, 0);
         x.years(1);
@@ -548,7 +554,7 @@ public final class PromisesTest {
         x.years(1);
         due(x.taskOf(0, 2), now - 4 - 2 - 2);
         // one whose own name has something at hand does not help
-        NameBook y = told("task 0 hours 50;task 1 hours 50;person hands 9 age 7 bears 0;person hands 9 age 7 bears 1");
+        CountedBook y = told("task 0 hours 50;task 1 hours 50;person hands 9 age 7 bears 0;person hands 9 age 7 bears 1");
         y.helps(1, 0);
         y.years(1);
         due(y.taskOf(0, 2), 41);
@@ -566,7 +572,7 @@ public final class PromisesTest {
         y.take(0, -1);
         due(y.ahead(1, 1), 41);
         // half of one hand is none; on a promise it is 1, as 1 is added
-        NameBook z = told("promise 0 hours 50;person bears 0;person hands 1 age 9");
+        CountedBook z = told("promise 0 hours 50;person bears 0;person hands 1 age 9");
         z.helps(1, 0);
         due(z.ahead(1, 1), 49);
         z.turn(0, 4);
@@ -576,22 +582,22 @@ public final class PromisesTest {
 
     private static void byNumbers() {
         // 0 ends what 1 waits for, in the same year; not the other way round
-        NameBook x = told("task 0 hours 3;task 1 hours 9 needs 0;person age 7 bears 0;person age 7 bears 1");
+        CountedBook x = told("task 0 hours 3;task 1 hours 9 needs 0;person age 7 bears 0;person age 7 bears 1");
         due(x.ahead(1, 1), 6);
         x.exchange(0, 1);
         due(x.ahead(1, 1), 9);
         // a bearer goes on with the next task only in the next year
-        NameBook y = told("task 0 hours 1;task 0 hours 9;person hands 9 age 7 bears 0");
+        CountedBook y = told("task 0 hours 1;task 0 hours 9;person hands 9 age 7 bears 0");
         due(y.ahead(1, 1), 9);
         // helper 0 ends the name of 1, who is then free to help 2
-        NameBook z = told("task 1 hours 6;task 2 hours 50;person hands 6 age 7;person age 7 bears 1;person bears 2");
+        CountedBook z = told("task 1 hours 6;task 2 hours 50;person hands 6 age 7;person age 7 bears 1;person bears 2");
         z.helps(0, 1);
         z.helps(1, 2);
         due(z.ahead(1, 1), 49);
     }
 
     private static void leaving() {
-        NameBook x = told("task 0 hours 50;task 1 hours 3;person age 39 bears 0;person age 39 bears 1;person age 38 bears 2");
+        CountedBook x = told("task 0 hours 50;task 1 hours 3;person age 39 bears 0;person age 39 bears 1;person age 38 bears 2");
         due(x.years(1), 1);
         due(x.of(0, 0), -1);
         due(x.of(0, 1), 40);
@@ -609,7 +615,7 @@ public final class PromisesTest {
         due(x.of(2, 0), -1);
         due(x.nameOf(2, 6), 1);
         due(x.count(1), 3);
-        NameBook full = new NameBook();
+        CountedBook full = new CountedBook();
         for (int i = 0; i < 20; i++) {
             full.task(0, 0, 9);
         }
@@ -621,7 +627,7 @@ public final class PromisesTest {
         due(full.nameOf(0, 6), 1);
         due(full.of(0, 0), -1);
         // two leave in one year, and there is room for one task more: the first gets it
-        NameBook two = new NameBook();
+        CountedBook two = new CountedBook();
         for (int i = 0; i < 19; i++) {
             two.task(0, i % 2, 9);
         }
@@ -637,7 +643,7 @@ public final class PromisesTest {
 
     private static void choosing() {
         promise(22);
-        NameBook x = told("name 1 worth 50;name 2 worth 50;task 0 hours 3;task 1 hours 99;task 2 hours 99",
+        CountedBook x = told("name 1 worth 50;name 2 worth 50;task 0 hours 3;task 1 hours 99;task 2 hours 99",
                 "name 3 worth 99;task 3 hours 100;name 4 worth 99;task 4 hours 1;name 5 worth 99;person;person bears 4");
         due(x.choose(0), 1);
         String before = look(x);
@@ -656,7 +662,7 @@ public final class PromisesTest {
         refused(x, BEYOND, () -> x.choose(-1));
         x.years(1);
         refused(x, STATE, () -> x.choose(0));
-        NameBook late = atYear(959);
+        CountedBook late = atYear(959);
         late.person(3);
         late.task(0, 6, 1);
         due(late.choose(0), 6);
@@ -665,7 +671,7 @@ public final class PromisesTest {
         refused(late, BEYOND, () -> late.choose(1));
 
         promise(23);
-        NameBook h = told("task 0 hours 99;person hands 1 bears 0");
+        CountedBook h = told("task 0 hours 99;person hands 1 bears 0");
         due(h.handsFor(0), 3);
         due(h.of(0, 2), 1);
         h.change(0, 1, 8);
@@ -684,7 +690,7 @@ public final class PromisesTest {
         letYearsGo(late, 960);
         late.take(0, 6);
         refused(late, STATE, () -> late.handsFor(0));
-        NameBook early = atYear(959);
+        CountedBook early = atYear(959);
         early.person(3);
         early.take(0, 0);
         due(early.handsFor(0), 1);
@@ -697,7 +703,7 @@ public final class PromisesTest {
     /** Person 0, name 0 and task 0 count as all others. */
     private static void firstOnes() {
         promise(22);
-        NameBook x = told("name 0 worth 50;task 0 hours 3;task 1 hours 3;person;person age 7");
+        CountedBook x = told("name 0 worth 50;task 0 hours 3;task 1 hours 3;person;person age 7");
         due(x.choose(1), 0);
         x.take(0, 0);
         refused(x, STATE, () -> x.choose(0));
@@ -713,7 +719,7 @@ public final class PromisesTest {
         // 0 bears name 0, which has something at hand: no help
         due(x.ahead(1, 1), 47 + 47);
         promise(24);
-        NameBook y = told("name 0 worth 50;task 0 hours 3;task 1 hours 3;person age 7 bears 0;person age 7");
+        CountedBook y = told("name 0 worth 50;task 0 hours 3;task 1 hours 3;person age 7 bears 0;person age 7");
         due(y.most(1), 60);
         y.take(0, 2);
         due(y.most(1), 50);
@@ -723,7 +729,7 @@ public final class PromisesTest {
         due(y.give(1), 1);
         due(y.of(0, 0), 0);
         // what could be ended, but isn't, as it waits for a ring, does not stand ahead of the first giving
-        NameBook z = told("task 0 hours 3;task 1 hours 3;task 2 hours 1;task 2 hours 1 needs 2;person age 7;person age 7");
+        CountedBook z = told("task 0 hours 3;task 1 hours 3;task 2 hours 1;task 2 hours 1 needs 2;person age 7;person age 7");
         z.needs(2, 3);
         z.needs(0, 2);
         z.needs(1, 2);
@@ -738,7 +744,7 @@ public final class PromisesTest {
 
     /** Only with all who help is it ended in time. */
     private static void helpedGiving() {
-        NameBook x = told("promise 0 hours 33;letter 1 hours 30;task 2 hours 20;person hands 9 age 7;person age 6");
+        CountedBook x = told("promise 0 hours 33;letter 1 hours 30;task 2 hours 20;person hands 9 age 7;person age 6");
         read(x, "person hands 8 age 7 bears 3;person hands 8 age 7 bears 4");
         x.helps(2, 1);
         x.helps(3, 1);
@@ -767,7 +773,7 @@ public final class PromisesTest {
 
     private static void givings() {
         promise(24);
-        NameBook x = told("name 0 worth 5;name 1 worth 20;name 2 worth 7;task 0 hours 3;task 1 hours 6;task 2 hours 30",
+        CountedBook x = told("name 0 worth 5;name 1 worth 20;name 2 worth 7;task 0 hours 3;task 1 hours 6;task 2 hours 30",
                 "name 3 worth 90;task 3 hours 3;person age 7;person age 7;person hands 9 age 7;person age 7 bears 3");
         due(x.most(1), 90 + 20 + 5);
         due(x.most(3), 90 + 20 + 5);
@@ -775,7 +781,7 @@ public final class PromisesTest {
         due(x.of(0, 0), -1);
         refused(x, BEYOND, () -> x.most(0));
         refused(x, BEYOND, () -> x.most(41));
-        NameBook late = atYear(960);
+        CountedBook late = atYear(960);
         due(late.most(39), 0);
         refused(late, STATE, () -> late.most(40));
         refused(late, BEYOND, () -> late.most(41));
@@ -807,27 +813,27 @@ public final class PromisesTest {
         refused(x, BEYOND, () -> x.give(0));
         refused(x, BEYOND, () -> x.give(41));
         // none comes ahead of 0, so the last person gets it, and of equal names the least
-        NameBook y = told("task 5 hours 3;task 2 hours 30;person age 7;person age 7;person age 7");
+        CountedBook y = told("task 5 hours 3;task 2 hours 30;person age 7;person age 7;person age 7");
         due(y.give(3), 1);
         due(y.of(0, 0), -1);
         due(y.of(1, 0), -1);
         due(y.of(2, 0), 5);
-        NameBook z = told("task 5 hours 3;task 2 hours 3;person age 7");
+        CountedBook z = told("task 5 hours 3;task 2 hours 3;person age 7");
         due(z.give(1), 1);
         due(z.of(0, 0), 2);
-        NameBook none = told("task 5 hours 30;person age 7");
+        CountedBook none = told("task 5 hours 30;person age 7");
         due(none.give(9), 0);
         due(none.of(0, 0), -1);
-        NameBook l = atYear(999);
+        CountedBook l = atYear(999);
         for (int i = 0; i < 5; i++) {
             l.person(3);
         }
         refused(l, STATE, () -> l.give(1));
-        NameBook many = new NameBook();
+        CountedBook many = new CountedBook();
         many.born(5);
         refused(many, SIZE, () -> many.give(1));
         // a name that nobody should end for itself is given, if another waits for it
-        NameBook w = told("name 0 worth 0;task 0 hours 3;task 1 hours 3 needs 0;person age 7;person age 7");
+        CountedBook w = told("name 0 worth 0;task 0 hours 3;task 1 hours 3 needs 0;person age 7;person age 7");
         due(w.most(1), 10);
         due(w.give(1), 2);
         due(w.of(0, 0), 0);
@@ -836,7 +842,7 @@ public final class PromisesTest {
 
     private static void lives() {
         promise(26);
-        NameBook x = told("task 0 hours 33;task 1 hours 34;task 2 hours 9 needs 1;wall 3 hours 49;person hands 9 bears 0");
+        CountedBook x = told("task 0 hours 33;task 1 hours 34;task 2 hours 9 needs 1;wall 3 hours 49;person hands 9 bears 0");
         x.person(9);
         x.take(1, 1);
         due(x.lives(0, 1), 1);
@@ -856,12 +862,12 @@ public final class PromisesTest {
         refused(x, BEYOND, () -> x.lives(8, 1));
         refused(x, BEYOND, () -> x.lives(-1, 1));
         // 33 a life less 5: 33 + 8 * 28 end behind nine
-        NameBook y = new NameBook();
+        CountedBook y = new CountedBook();
         y.task(0, 0, 33 + 8 * 28);
         due(y.lives(0, 1), 9);
         y.task(0, 0, 1);
         due(y.lives(0, 1), NONE);
-        NameBook late = atYear(999);
+        CountedBook late = atYear(999);
         late.task(0, 0, 34);
         due(late.lives(0, 1), 2);
         late.strike(0);
@@ -870,7 +876,7 @@ public final class PromisesTest {
 
     private static void striking() {
         promise(27);
-        NameBook x = told("task 0 hours 30;task 1 hours 40;debt 2 hours 35;task 3 hours 40");
+        CountedBook x = told("task 0 hours 30;task 1 hours 40;debt 2 hours 35;task 3 hours 40");
         due(x.best(1), 1);
         due(x.best(2), 2);
         due(x.taskOf(2, 2), 35);
@@ -882,22 +888,22 @@ public final class PromisesTest {
             x.strike(t);
         }
         refused(x, NONE, () -> x.best(60));
-        NameBook none = new NameBook();
+        CountedBook none = new CountedBook();
         refused(none, NONE, () -> none.best(1));
-        NameBook late = atYear(940);
+        CountedBook late = atYear(940);
         refused(late, STATE, () -> late.best(60));
         refused(late, BEYOND, () -> late.best(61));
         refused(late, NONE, () -> late.best(59));
-        NameBook z = told("task 0 hours 1;task 1 hours 50 needs 0;task 2 hours 9;person hands 9 age 7 bears 1");
+        CountedBook z = told("task 0 hours 1;task 1 hours 50 needs 0;task 2 hours 9;person hands 9 age 7 bears 1");
         due(z.best(6), 0);
         due(z.best(4), 1);
         // all will be ended in any case: the first that isn't now
-        NameBook y = told("task 0 hours 1;task 0 hours 1;task 0 hours 1;person age 7 bears 0");
+        CountedBook y = told("task 0 hours 1;task 0 hours 1;task 0 hours 1;person age 7 bears 0");
         y.strike(0);
         due(y.best(9), 1);
 
         promise(28);
-        NameBook w = told("task 0 hours 50;letter 1 hours 50;person age 7 bears 0;person age 7 bears 1;person hands 5 age 7");
+        CountedBook w = told("task 0 hours 50;letter 1 hours 50;person age 7 bears 0;person age 7 bears 1;person hands 5 age 7");
         due(w.whom(2, 1), 1);
         due(w.of(2, 3), -1);
         w.turn(1, 0);
@@ -918,7 +924,7 @@ public final class PromisesTest {
         due(late.whom(0, 59), -1);
 
         promise(29);
-        NameBook s = new NameBook();
+        CountedBook s = new CountedBook();
         due(s.seed(BEYOND), 1);
         due(s.seed(DEEP), BEYOND);
         due(s.seed(FAR), DEEP);
@@ -928,7 +934,7 @@ public final class PromisesTest {
 
     private static void texts() {
         promise(30);
-        NameBook x = new NameBook();
+        CountedBook x = new CountedBook();
         due(x.feed('p' << 24 | 'e' << 16 | 'r' << 8 | 's', 4), 4);
         due(x.feed('X' << 16 | 'o' << 8 | 'n', 2), 6);
         due(x.text(), 1);
@@ -949,7 +955,7 @@ public final class PromisesTest {
         due(x.wipe(), 1);
 
         promise(32);
-        NameBook t = new NameBook();
+        CountedBook t = new CountedBook();
         due(read(t, "  name0worth99 ;task 1hours 5;wall 2 hours 1 needs 0;person hands 9 age 39 bears 7  "), 4);
         due(t.nameOf(0, 0), 99);
         due(t.taskOf(1, 3), 0);
@@ -975,7 +981,7 @@ public final class PromisesTest {
         fullBooks();
     }
 
-    private static void faults(NameBook t) {
+    private static void faults(CountedBook t) {
         String before = look(t);
         String[] texts = {"", "   ", ";", "person;", "person;  ", "person;;person", "person 3", "name 8 worth 1",
             "name 1 worth 100", "name 1", "name 1 hours", "name 1 worth", "name worth", "Name 1 worth 1",
@@ -987,8 +993,10 @@ public final class PromisesTest {
         int[] places = {0, 3, 0, 7, 9, 7, 7, 5, 13, 6, 7, 12, 5, 0, 5, 13, 13, 13, 21, 20, 21, 21, 13, 13, 11, 13, 13, 13,
             28, 15, 0, 0, 0, 0, 6, 17, 15, 13, 13, 23};
         for (int i = 0; i < texts.length; i++) {
-            due(read(t, texts[i]), -1 - places[i]);
-            due(look(t).equals(before) ? 1 : 0, 1);
+            CountedBook u = t.twin();
+            due(read(u, texts[i]), -1 - places[i]);
+            due(look(u).equals(before) ? 1 : 0, 1);
+            due(u.status(-1), 0);
         }
         due(read(t, "person" + (char) 200), -7);
         due(t.status(-1), 0);
@@ -1002,7 +1010,7 @@ public final class PromisesTest {
     }
 
     private static void fullBooks() {
-        NameBook x = new NameBook();
+        CountedBook x = new CountedBook();
         x.born(7);
         due(read(x, "person; person 5"), -1 - 8);
         due(x.count(3), 7);
@@ -1021,7 +1029,7 @@ public final class PromisesTest {
 
     private static void spotsAndSheets() {
         promise(33);
-        NameBook x = told("task 0 hours 1;wall 0 hours 1;debt 0 hours 1;feud 0 hours 1",
+        CountedBook x = told("task 0 hours 1;wall 0 hours 1;debt 0 hours 1;feud 0 hours 1",
                 "letter 0 hours 1;promise 0 hours 1;tower 0 hours 1");
         due(x.hold(9, 6), 1);
         due(x.as(9, 6), 6);
@@ -1064,7 +1072,7 @@ public final class PromisesTest {
 
     private static void sheets() {
         promise(35);
-        NameBook x = new NameBook();
+        CountedBook x = new CountedBook();
         due(x.sheet(0, 8, 40), 40);
         due(x.sheet(3, 16, 0), 0);
         due(x.sheet(1, 32, 5), 5);
@@ -1108,7 +1116,7 @@ public final class PromisesTest {
         due(holds(x, 1, 65536 + 128, 128), 0);
         due(holds(x, 1, 128, 128), 1);
         // of 8 bits 255 is -1: load() takes it as no name
-        NameBook y = told("person bears 3");
+        CountedBook y = told("person bears 3");
         y.sheet(0, 8, 1);
         y.write(0, 0, 255);
         due(y.load(0), 1);
@@ -1125,8 +1133,8 @@ public final class PromisesTest {
     }
 
     /** 1, if what is written comes back as hours of a task. */
-    private static int holds(NameBook x, int s, int v, int hours) {
-        NameBook y = new NameBook();
+    private static int holds(CountedBook x, int s, int v, int hours) {
+        CountedBook y = new CountedBook();
         y.task(0, 0, hours);
         y.sheet(s, s == 0 ? 8 : s == 2 ? 16 : 32, 1);
         y.write(s, 0, v);
@@ -1134,7 +1142,7 @@ public final class PromisesTest {
     }
 
     private static void copies() {
-        NameBook x = new NameBook();
+        CountedBook x = new CountedBook();
         for (int t = 0; t < 5; t++) {
             x.task(0, 0, t + 1);
         }
@@ -1174,7 +1182,7 @@ public final class PromisesTest {
 
     private static void loading() {
         promise(38);
-        NameBook x = told("person bears 1;person bears 2;person;person");
+        CountedBook x = told("person bears 1;person bears 2;person;person");
         x.sheet(0, 8, 6);
         int[] names = {3, 1, -1, 4, 5, 6};
         for (int i = 0; i < names.length; i++) {
@@ -1210,7 +1218,7 @@ public final class PromisesTest {
 
     private static void judging() {
         promise(39);
-        NameBook x = told("task 0 hours 9;debt 1 hours 20;person age 38 bears 0");
+        CountedBook x = told("task 0 hours 9;debt 1 hours 20;person age 38 bears 0");
         x.sheet(0, 16, 2);
         x.write(0, 0, 9);
         x.write(0, 1, 20);
@@ -1240,7 +1248,7 @@ public final class PromisesTest {
         refused(x, MISSING, () -> x.judge(3, 61));
         refused(x, BEYOND, () -> x.judge(0, 61));
         refused(x, BEYOND, () -> x.judge(0, -1));
-        NameBook late = atYear(960);
+        CountedBook late = atYear(960);
         late.sheet(0, 8, 0);
         due(late.judge(0, 39), 0);
         refused(late, STATE, () -> late.judge(0, 40));
@@ -1249,7 +1257,7 @@ public final class PromisesTest {
 
     private static void images() {
         promise(40);
-        NameBook x = told("name 1 worth 7;task 1 hours 9;person age 30 bears 1");
+        CountedBook x = told("name 1 worth 7;task 1 hours 9;person age 30 bears 1");
         x.hold(4, 0);
         x.seed(77);
         x.sheet(0, 8, 1);
@@ -1298,10 +1306,10 @@ public final class PromisesTest {
         due(x.image(), 1);
         due(x.undo(), 7);
         due(x.tear(), 1);
-        refused(new NameBook(), NONE);
+        refused(new CountedBook(), NONE);
 
         promise(43);
-        NameBook c = told("name 1 worth 7;task 1 hours 9;task 2 hours 4;task 2 hours 6;person;person");
+        CountedBook c = told("name 1 worth 7;task 1 hours 9;task 2 hours 4;task 2 hours 6;person;person");
         c.strike(0);
         c.years(5);
         c.seed(BEYOND);
@@ -1318,13 +1326,13 @@ public final class PromisesTest {
         statusOfAll();
     }
 
-    private static void refused(NameBook x, int finding) {
+    private static void refused(CountedBook x, int finding) {
         due(x.tear(), 0);
         refused(x, finding, () -> x.undo());
     }
 
     private static void statusOfAll() {
-        NameBook x = new NameBook();
+        CountedBook x = new CountedBook();
         for (int i = 0; i < 8; i++) {
             x.person(3);
         }
