@@ -1284,6 +1284,15 @@ public final class BoundariesTest {
             change(0, 1, 8)
             handsFor(0) = NONE
             """);
+        says("Promise 23: the NAME of a PERSON: PERSON 0 bears NAME 1, PERSON 1 bears NAME 0", """
+            read "task 1 hours 99;task 0 hours 33;person bears 1;person bears 0" = 4
+            handsFor(0) = 3
+            handsFor(1) = 1
+            change(0, 2, 9)
+            change(1, 2, 9)
+            handsFor(0) = 3
+            handsFor(1) = 1
+            """);
         says("Promise 23: SHUT now, too: 1", """
             read "task 0 hours 1;person hands 9 bears 0;person hands 9 age 39 bears 1" = 3
             handsFor(1) = 1
